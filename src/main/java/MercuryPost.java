@@ -1207,7 +1207,7 @@ public final class MercuryPost {
                 if (token() == NO_MORE) {
                     return NONE;
                 }
-                if (!tookSign(';')) {
+                if (!took(SIGN + ';')) {
                     break;
                 }
             }
@@ -1225,15 +1225,11 @@ public final class MercuryPost {
         }
 
         private boolean took(int wanted) {
-            boolean is = token() == wanted;
-            if (is) {
-                goOn();
+            boolean is = tape.token[at] == wanted;
+            if (is && at < tape.tokens - 1) {
+                at++;
             }
             return is;
-        }
-
-        private boolean tookSign(char sign) {
-            return took(SIGN + sign);
         }
 
         private boolean readRule(int clause) {
@@ -1349,14 +1345,14 @@ public final class MercuryPost {
                 return false;
             }
             goOn();
-            return test(depth + 1) && tookSign(')');
+            return test(depth + 1) && took(SIGN + ')');
         }
 
         private boolean comparison(int depth) {
             if (!sum(depth)) {
                 return false;
             }
-            int step = tookSign('<') ? LESS : tookSign('>') ? MORE : tookSign('=') ? SAME : NONE;
+            int step = took(SIGN + '<') ? LESS : took(SIGN + '>') ? MORE : took(SIGN + '=') ? SAME : NONE;
             if (step == NONE || !sum(depth)) {
                 return false;
             }
@@ -1369,7 +1365,7 @@ public final class MercuryPost {
                 return false;
             }
             for (int n = 0; n < MOST_BYTES; n++) {
-                int step = tookSign('+') ? PLUS : tookSign('-') ? MINUS : NONE;
+                int step = took(SIGN + '+') ? PLUS : took(SIGN + '-') ? MINUS : NONE;
                 if (step == NONE) {
                     return true;
                 }
@@ -1386,7 +1382,7 @@ public final class MercuryPost {
                 return false;
             }
             for (int n = 0; n < MOST_BYTES; n++) {
-                int step = tookSign('*') ? TIMES : tookSign('/') ? OVER : tookSign('%') ? REST : NONE;
+                int step = took(SIGN + '*') ? TIMES : took(SIGN + '/') ? OVER : took(SIGN + '%') ? REST : NONE;
                 if (step == NONE) {
                     return true;
                 }
@@ -1404,7 +1400,7 @@ public final class MercuryPost {
                     return false;
                 }
                 goOn();
-                return sum(depth + 1) && tookSign(']');
+                return sum(depth + 1) && took(SIGN + ']');
             }
             if (parts >= MOST_PARTS) {
                 return false;
@@ -1583,7 +1579,6 @@ public final class MercuryPost {
             law = byLaw;
             kerbs = 0;
             known = 0;
-            held = 0;
         }
 
         int standOf(int cell) {

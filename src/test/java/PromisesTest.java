@@ -29,12 +29,16 @@ public final class PromisesTest {
         t.delays();
         t.apart();
         t.kerbs();
+        t.kerbsAtCellZero();
+        t.firstCalls();
         t.springsPoolsLongest();
         t.seenAndLook();
+        t.lookLater();
         t.few();
         t.compare();
         t.days();
         t.images();
+        t.imagesOfLaws();
         t.counts();
         t.statusOfEach();
         t.checks.end();
@@ -740,6 +744,114 @@ public final class PromisesTest {
         due("kerbs(3, 8, 1): not the start", s.kerbs(3, 8, 1), 1 << 4);
     }
 
+    // 27: cell 0 can be one of them; what was tried on paper leaves nothing behind
+    private void kerbsAtCellZero() {
+        MercuryPost p = begin("kerbs at 0");
+        for (int cell = 0; cell < 25; cell++) {
+            p.raise(cell, 9);
+        }
+        p.raise(5, 6);
+        p.raise(0, 4);
+        p.raise(6, 5);
+        p.raise(1, 5);
+        p.door(0, 1);
+        p.door(6, 1);
+        p.door(10, 1);
+        due("kerbs(5, 0, 0)", p.kerbs(5, 0, 0), 0);
+        due("kerbs(5, 6, 1)", p.kerbs(5, 6, 1), 1);
+        due("kerbs(1, 0, 0): 1 is the start", p.kerbs(1, 0, 0), 0);
+        p.raise(1, 3);
+        p.door(0, 0);
+        p.door(1, 1);
+        due("run(5, 9)", p.run(5, 9), 1);
+        due("kerbs(5, 1, 0): through 0", p.kerbs(5, 1, 0), 0);
+        due("kerbs(5, 6, 0)", p.kerbs(5, 6, 0), 1);
+        p.raise(6, 8);
+        p.raise(5, 9);
+        p.raise(10, 8);
+        p.raise(0, 2);
+        p.raise(1, 1);
+        p.raise(6, 0);
+        p.raise(2, 4);
+        p.raise(7, 2);
+        p.door(0, 1);
+        due("kerbs(2, 1, 0)", p.kerbs(2, 1, 0), 0);
+        MercuryPost q = begin("kerbs at 0 and 1");
+        for (int cell = 0; cell < 25; cell++) {
+            q.raise(cell, 9);
+        }
+        q.raise(6, 8);
+        q.raise(5, 7);
+        q.raise(1, 6);
+        q.raise(0, 5);
+        q.raise(10, 6);
+        q.door(10, 1);
+        q.door(0, 1);
+        due("run(6, 9)", q.run(6, 9), 0);
+        due("kerbs(6, 10, 0)", q.kerbs(6, 10, 0), 2);
+        due("kerbs(6, 10, 1)", q.kerbs(6, 10, 1), 3);
+        Checks.law(q, "stands 50 if high = 9; holds if high = 9 and x = 0; stands high");
+        q.force(0);
+        due("kerbs with a law", q.kerbs(6, 10, 1), 3);
+        due("cell(0, 3) behind it", q.cell(0, 3), 5);
+        due("cell(1, 3) behind it", q.cell(1, 3), 6);
+        due("cell(24, 3) behind it", q.cell(24, 3), 9);
+        due("cell(0, 4) behind it", q.cell(0, 4), 0);
+        MercuryPost r = begin("kerbs by which a drop is held no longer, or is");
+        r.raise(12, 3);
+        r.raise(13, 2);
+        r.raise(14, 1);
+        r.door(14, 1);
+        r.raise(17, 9);
+        r.raise(7, 9);
+        r.raise(11, 9);
+        r.raise(18, 9);
+        r.raise(8, 9);
+        r.raise(9, 5);
+        r.raise(19, 5);
+        Checks.law(r, "holds if x = 3 and y = 2 and high = 2; stands 2 if x = 3 and y = 2");
+        r.force(0);
+        due("run(12, 9)", r.run(12, 9), 13);
+        due("kerbs(12, 14, 0)", r.kerbs(12, 14, 0), 1);
+        due("kerbs(12, 14, 1): 9 high it holds no more", r.kerbs(12, 14, 1), 1 << 13);
+        due("run(12, 9): on paper", r.run(12, 9), 13);
+        due("cell(13, 4)", r.cell(13, 4), 1);
+        Checks.law(r, "holds if high = 9; stands 2 if x = 3 and y = 2");
+        r.force(1);
+        due("run(12, 9)", r.run(12, 9), 14);
+        due("kerbs(12, 14, 0)", r.kerbs(12, 14, 0), 0);
+    }
+
+    // each asked of a new object first, so that none lives on what another one left
+    private void firstCalls() {
+        for (int kind = 0; kind < 9; kind++) {
+            MercuryPost p = begin("first call " + kind);
+            p.raise(0, 9);
+            p.raise(1, 8);
+            p.raise(2, 7);
+            p.raise(5, 9);
+            p.raise(6, 9);
+            p.raise(7, 9);
+            p.raise(3, 6);
+            p.raise(8, 9);
+            p.door(3, 1);
+            long got;
+            long want;
+            switch (kind) {
+                case 0: got = p.run(0, -1); want = 3; break;
+                case 1: got = p.basin(3); want = 1 | 2 | 4 | 8; break;
+                case 2: got = p.meeting(0, 1); want = 1; break;
+                case 3: got = p.delay(0, 0); want = 1; break;
+                case 4: got = p.apart(3, -1); want = 1; break;
+                case 5: got = p.kerbs(0, 3, 0); want = 0; break;
+                case 6: got = p.springs() & 15; want = 1; break;
+                case 7: got = p.pools() & 15; want = 0; break;
+                default: got = p.longest(1); want = 0;
+            }
+            due("it", got, want);
+        }
+    }
+
     // 28, 29, 30
     private void springsPoolsLongest() {
         MercuryPost p = slide();
@@ -753,6 +865,21 @@ public final class PromisesTest {
         p.raise(5, 8);
         p.raise(0, 9);
         due("longest(1): the lowest of alike ones", p.longest(1), 0);
+        MercuryPost q = begin("springs: 0 runs, too; longest from 1");
+        q.raise(0, 1);
+        q.raise(6, 1);
+        due("springs()", q.springs(), ALL & ~(1 << 5) & ~(1 << 11));
+        due("longest(0)", q.longest(0), 1);
+        due("longest(1)", q.longest(1), 0);
+        q.raise(0, 0);
+        q.raise(6, 0);
+        q.raise(1, 3);
+        q.raise(2, 2);
+        q.raise(6, 3);
+        q.raise(0, 3);
+        due("longest(0)", q.longest(0), 2);
+        due("longest(1)", q.longest(1), 1);
+        at = "springs, pools, longest";
         Checks.law(p, "holds");
         p.force(0);
         due("springs() if all are held", p.springs(), ALL);
@@ -871,6 +998,37 @@ public final class PromisesTest {
         due("look(1)", v.look(1), 2);
     }
 
+    /** Letters that are on one cell part only if one of them is READ there and the other one is not. */
+    private void lookLater() {
+        MercuryPost p = begin("look when one was read where the other one runs");
+        p.door(12, 1);
+        p.spill(0, 12);
+        p.pass();
+        p.door(12, 0);
+        p.raise(12, 3);
+        p.raise(13, 2);
+        p.raise(14, 1);
+        p.spill(1, 12);
+        p.raise(17, 5);
+        p.raise(7, 5);
+        p.raise(11, 5);
+        due("look(0)", p.look(0), 1);
+        due("look(1)", p.look(1), 1);
+        Checks.law(p, "holds if hour < 30");
+        p.force(0);
+        due("look(0): at the last hour", p.look(0), 30);
+        due("look(1)", p.look(1), 1);
+        p.terms(0, 0);
+        due("look(0): beyond the last hour", p.look(0), 0);
+        due("look(1)", p.look(1), 2);
+        p.seen(30, 12);
+        due("canBe()", p.canBe(), 3);
+        p.terms(0, 1);
+        due("canBe()", p.canBe(), 1);
+        due("look(0): one alone", p.look(0), 0);
+        due("look(1)", p.look(1), 1);
+    }
+
     // 35
     private void few() {
         MercuryPost p = begin("few");
@@ -954,6 +1112,27 @@ public final class PromisesTest {
         due("drawn(-1, 0)", p.drawn(-1, 0), -1);
         due("drawn(0, 3)", p.drawn(0, 3), -1);
         due("drawn(0, -1)", p.drawn(0, -1), -1);
+        MercuryPost q = begin("days at the last hour");
+        q.terms(0, 999);
+        for (int seed = 0; seed < 20; seed++) {
+            q.days(seed, 60);
+            int in = 0;
+            for (int l = 0; l < 8; l++) {
+                in += q.drawn(l, 0);
+            }
+            due("days(" + seed + ", 60): no letter is spilt", in, 0);
+        }
+        q.terms(0, 998);
+        q.door(12, 1);
+        int spilt = 0;
+        for (int seed = 0; seed < 20; seed++) {
+            q.days(seed, 60);
+            for (int l = 0; l < 8; l++) {
+                spilt = Math.max(spilt, q.drawn(l, 2));
+                due("drawn(): one hour alone", q.drawn(l, 2) < 999 ? 1 : 0, 1);
+            }
+        }
+        at = "days";
         p.terms(0, 999);
         due("days(5, 60): no hour is left", p.days(5, 60), 0);
         due("drawn(3, 0)", p.drawn(3, 0), 1);
@@ -1077,6 +1256,65 @@ public final class PromisesTest {
         due("orders()", Checks.orders(p, "pass; spill 0 at 0"), -3);
         p.back(0);
         due("stopped() stays", p.stopped(), 1);
+    }
+
+    // 39, 40: laws, what was SEEN are as they were, whatever came in their place
+    private void imagesOfLaws() {
+        MercuryPost p = begin("images of laws");
+        p.raise(12, 4);
+        p.raise(7, 2);
+        Checks.law(p, "holds if x = 2 and y = 1; stands 3 * high + 1 if high > 3; stands 50 - x if y = 0");
+        Checks.law(p, "stands 9");
+        p.force(0);
+        p.seen(1, 12);
+        p.seen(2, 7);
+        p.image(0);
+        Checks.orders(p, "raise [1 + 2] * [3 + 1] to 1 + 1 + 1 if 1 = 1 or 2 = 2; pass times 20 if hour < 2");
+        due("orders() of less", Checks.orders(p, "pass"), 1);
+        due("orders() of less", Checks.orders(p, "pass;pass if hour > 0"), 2);
+        p.forget();
+        p.seen(5, 5);
+        p.image(1);
+        for (int round = 0; round < 2; round++) {
+            p.back(0);
+            due("cell(7, 4)", p.cell(7, 4), 1);
+            due("cell(12, 4)", p.cell(12, 4), 0);
+            due("cell(12, 3)", p.cell(12, 3), 13);
+            due("cell(7, 3)", p.cell(7, 3), 2);
+            due("cell(4, 3)", p.cell(4, 3), 46);
+            p.spill(0, 12);
+            due("canBe(): seen at 12, at 7", p.canBe(), 0);
+            p.forget();
+            p.seen(1, 17);
+            due("canBe()", p.canBe(), 1);
+        }
+        MercuryPost q = begin("images: a law of its own each");
+        q.image(0);
+        Checks.law(q, "stands 1 + 1 + 1 if x = 0 or y = 0; stands 5 if x = 4; holds if y = 4 and not x = 2");
+        q.force(0);
+        q.spill(0, 8);
+        q.seen(0, 8);
+        q.seen(1, 8);
+        q.image(1);
+        q.back(0);
+        Checks.law(q, "holds");
+        q.force(0);
+        q.seen(9, 9);
+        due("cell(0, 3)", q.cell(0, 3), 0);
+        due("cell(0, 4)", q.cell(0, 4), 1);
+        q.image(0);
+        q.back(1);
+        due("cell(0, 3)", q.cell(0, 3), 3);
+        due("cell(4, 3)", q.cell(4, 3), 5);
+        due("cell(24, 4)", q.cell(24, 4), 1);
+        due("cell(22, 4)", q.cell(22, 4), 0);
+        due("cell(0, 4)", q.cell(0, 4), 0);
+        due("canBe()", q.canBe(), 1);
+        q.back(0);
+        due("cell(4, 3)", q.cell(4, 3), 0);
+        due("cell(4, 4)", q.cell(4, 4), 1);
+        due("count(3)", q.count(3), 1);
+        due("count(4)", q.count(4), 1);
     }
 
     // 41

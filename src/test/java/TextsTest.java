@@ -91,6 +91,17 @@ public final class TextsTest {
         lawFault("stands 1 if x = 1 and", 21);
         lawFault("stands 1 if x = 1 and or", 22);
         lawFault("stands 1 if x = 1 not", 18);
+        lawFault("holds if x = 1 or", 17);
+        lawFault("holds if x = 1 or y", 19);
+        lawFault("holds if x = 1 or not", 21);
+        lawFault("holds if x", 10);
+        lawFault("holds if (x = 1 or y = 2", 24);
+        lawFault("stands 1 *", 10);
+        lawFault("stands 1 /", 10);
+        lawFault("stands 1 %", 10);
+        lawFault("stands 1 -", 10);
+        lawFault("stands [1 *]", 11);
+        lawFault("stands [1 +]", 11);
         lawFault("stands 1 if not", 15);
         lawFault("stands 1 if (x) = 1", 14);
         lawFault("stands 1 if [x] = 1", -1);
@@ -165,6 +176,12 @@ public final class TextsTest {
         lawFault("stands 12x", 9);
         lawFault("stands 1if x=1and y=2or not(x<1)", -1);
         lawFault("standsx", 0);
+        lawFault("holdsz", 0);
+        lawFault("holdsa", 0);
+        lawFault("holds{", 5);
+        lawFault("holds`", 5);
+        lawFault("stands 9:", 8);
+        lawFault("stands 9/", 9);
         lawFault("stands 1 0", 9);
         lawFault("holds ifx = 1", 6);
         orderFault("spill1at2times3if 1=1", -1);
@@ -383,7 +400,6 @@ public final class TextsTest {
         Checks.law(q, "stands mood");
         q.force(0);
         checks.due("stands mood", q.cell(0, 3), 8);
-        checks.due("many: none that is read", 0, 0);
         q.door(13, 1);
         q.spill(1, 13);
         q.pass();
