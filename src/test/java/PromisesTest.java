@@ -20,6 +20,7 @@ public final class PromisesTest {
         t.lawNumbers();
         t.ordersWhole();
         t.ordersUndone();
+        t.textsOneBehindAnother();
         t.force();
         t.spillRaiseSplit();
         t.passHours();
@@ -1306,6 +1307,7 @@ public final class PromisesTest {
         q.back(1);
         due("cell(0, 3)", q.cell(0, 3), 3);
         due("cell(4, 3)", q.cell(4, 3), 5);
+        due("cell(13, 3): its tests, too", q.cell(13, 3), 0);
         due("cell(24, 4)", q.cell(24, 4), 1);
         due("cell(22, 4)", q.cell(22, 4), 0);
         due("cell(0, 4)", q.cell(0, 4), 0);
@@ -1315,6 +1317,35 @@ public final class PromisesTest {
         due("cell(4, 4)", q.cell(4, 4), 1);
         due("count(3)", q.count(3), 1);
         due("count(4)", q.count(4), 1);
+        MercuryPost r = begin("images: when it was seen");
+        r.raise(12, 1);
+        r.spill(0, 12);
+        r.seen(1, 17);
+        r.image(0);
+        r.forget();
+        r.seen(0, 17);
+        due("canBe()", r.canBe(), 0);
+        r.image(1);
+        r.back(0);
+        due("canBe(): seen an hour on", r.canBe(), 1);
+        r.back(1);
+        due("canBe(): seen now", r.canBe(), 0);
+    }
+
+    // 10, 11: no text lives on what was read ahead of it
+    private void textsOneBehindAnother() {
+        MercuryPost p = begin("texts");
+        String sum = "1 + 2 + 3 + 4 + 5 + 6 + 7 + 8 + 9 - 40";
+        for (int n = 0; n < 100; n++) {
+            due("orders " + n, Checks.orders(p, "raise " + sum + " to " + (n % 8 + 1) + "; pass if " + sum + " = 5"), 2);
+            due("cell(5, 0)", p.cell(5, 0), n % 8 + 1);
+        }
+        for (int n = 0; n < 100; n++) {
+            due("law that can't be read " + n, Checks.law(p, "stands " + sum + " + " + sum + " + "), -6);
+        }
+        due("law", Checks.law(p, "stands " + sum + " + high if " + sum + " = 5"), 0);
+        p.force(0);
+        due("cell(5, 3)", p.cell(5, 3), 9);
     }
 
     // 41
