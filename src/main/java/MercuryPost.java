@@ -1016,32 +1016,32 @@ public final class MercuryPost {
         /** The last token is always NO_MORE, behind the last byte. */
         void cut() {
             tokens = 0;
-            int from = 0;
-            while (from < size) {
-                int to = from + 1;
-                if (bytes[from] != BLANK) {
-                    to = behindRow(from);
-                    start[tokens] = from;
-                    token[tokens] = tokenOf(from, to);
+            for (int at = 0; at < size; at++) {
+                if (bytes[at] != BLANK && !goesOn(at)) {
+                    start[tokens] = at;
+                    token[tokens] = tokenOf(at, behindRow(at));
                     tokens++;
                 }
-                from = to;
             }
             start[tokens] = size;
             token[tokens] = NO_MORE;
             tokens++;
         }
 
+        /** Whether a byte is of one row with that ahead of it. */
+        private boolean goesOn(int at) {
+            if (at == 0) {
+                return false;
+            }
+            int sign = bytes[at];
+            int ahead = bytes[at - 1];
+            return isSmall(sign) && isSmall(ahead) || isDigit(sign) && isDigit(ahead);
+        }
+
         private int behindRow(int from) {
             int to = from + 1;
-            if (isSmall(bytes[from])) {
-                while (to < size && isSmall(bytes[to])) {
-                    to++;
-                }
-            } else if (isDigit(bytes[from])) {
-                while (to < size && isDigit(bytes[to])) {
-                    to++;
-                }
+            while (to < size && goesOn(to)) {
+                to++;
             }
             return to;
         }
@@ -1652,8 +1652,10 @@ public final class MercuryPost {
             known &= ~(kerbs | bits);
             kerbs = bits;
             int at = from;
-            for (int n = 0; n < CELLS; n++) {
-                at = next(at);
+            int to = next(at);
+            for (int n = 0; n < CELLS && to != at; n++) {
+                at = to;
+                to = next(at);
             }
             return at;
         }
