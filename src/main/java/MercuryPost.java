@@ -1119,7 +1119,10 @@ public final class MercuryPost {
 
     /** Clauses, whose sums and tests are rows of steps that a calculator works. */
     private static final class Text {
-        /** Each row starts with a 1, for clauses that have no "if"; no other step is without a byte of its own. */
+        /**
+         * Its first steps are a 1: where a clause has no "if", no sum, it points there, so that none
+         * has to be told apart. Each other step has a byte of the tape of its own.
+         */
         private final int[] code = new int[MOST_BYTES + 2];
         private int size;
         private int clauses;
