@@ -370,6 +370,12 @@ public final class TextsTest {
         holds("not x = 3", false);
         holds("not not x = 3", true);
         holds("not x = 4 and y = 2", true);
+        holds("not x = 3 and y = 2", false);
+        holds("not x = 3 or y = 2", true);
+        holds("not x = 3 or y = 3", false);
+        holds("not (not x = 3)", true);
+        holds("not (not (not x = 3)) or y = 3", false);
+        holds("not (x = 3 and not y = 3) and y = 2", false);
         holds("x = 3 or y = 9 and y = 8", true);
         holds("(x = 3 or y = 9) and y = 8", false);
         holds("x = 1 and y = 2 or y = 2", true);
