@@ -167,7 +167,7 @@ public final class MercuryPost {
         if (!isCell(cell)) {
             return NONE;
         }
-        slope.face(kept, now, kept.force);
+        slope.face(now, kept.force);
         switch (what) {
             case 0:
                 return now.high[cell];
@@ -395,7 +395,7 @@ public final class MercuryPost {
             return refusal;
         }
         past.keep(now, kind);
-        return kind == PASS ? slope.passHour(kept, now) : now.change(kind, a, b);
+        return kind == PASS ? slope.passHour(now) : now.change(kind, a, b);
     }
 
     public int undo() {
@@ -426,14 +426,14 @@ public final class MercuryPost {
     private void passOnPaper(int hours) {
         paper.copy(now);
         for (int n = 0; n < hours; n++) {
-            slope.passHour(kept, paper);
+            slope.passHour(paper);
         }
     }
 
     // ------------------------------------------------------------------ runs of drops alone
 
     private void traceRuns() {
-        slope.face(kept, now, kept.force);
+        slope.face(now, kept.force);
         streams.trace(slope, kept.doors);
     }
 
@@ -491,7 +491,7 @@ public final class MercuryPost {
         if (!isCell(from) || !isCell(door) || what < 0 || what > 1 || !kept.hasDoor(door)) {
             return NONE;
         }
-        slope.face(kept, now, kept.force);
+        slope.face(now, kept.force);
         int bits = fewestKerbs(from, door);
         return what == 1 || bits == NONE ? bits : Integer.bitCount(bits);
     }
@@ -590,7 +590,7 @@ public final class MercuryPost {
         paper.copy(now);
         for (int n = 0; n <= SEEN_HOURS; n++) {
             watch.note(n, paper);
-            slope.passHour(kept, paper);
+            slope.passHour(paper);
         }
     }
 
@@ -623,7 +623,7 @@ public final class MercuryPost {
         if (!isLawOrNone(law) || !isCell(cell)) {
             return NONE;
         }
-        slope.face(kept, now, law);
+        slope.face(now, law);
         return slope.next(cell);
     }
 
@@ -643,7 +643,7 @@ public final class MercuryPost {
             int second = s % CELLS;
             s = draw(s);
             changeDrawn(s % 4, letter, second);
-            slope.passHour(kept, drawnDays);
+            slope.passHour(drawnDays);
         }
         return notes.grant(drawnDays.howManyAre(IS_READ));
     }
@@ -1490,7 +1490,8 @@ public final class MercuryPost {
                 int number = text.code[at] >> STEP_BITS;
                 if (step == PUSH || step == FACT) {
                     top++;
-                    if (top >= MOST_PARTS || step == FACT && number >= facts.length) {
+                    boolean noFact = number < 0 || number >= facts.length;
+                    if (top >= MOST_PARTS || step == FACT && noFact) {
                         return BROKEN;
                     }
                     stack[top] = step == PUSH ? number : facts[number];
@@ -1563,7 +1564,7 @@ public final class MercuryPost {
         private final int[] facts = new int[LAW_FACTS];
         private final int[] stands = new int[CELLS];
         private final int[] whither = new int[LETTERS];
-        private Kept kept;
+        private final Kept kept;
         private Moment moment;
         private int law = NONE;
         private int kerbs;
@@ -1576,8 +1577,7 @@ public final class MercuryPost {
             this.moment = kept.moment;
         }
 
-        void face(Kept asKept, Moment at, int byLaw) {
-            kept = asKept;
+        void face(Moment at, int byLaw) {
             moment = at;
             law = byLaw;
             kerbs = 0;
@@ -1664,8 +1664,8 @@ public final class MercuryPost {
         }
 
         /** An hour, in the yard or on paper: how many are read in it. Its number has no end here. */
-        int passHour(Kept asKept, Moment passing) {
-            face(asKept, passing, asKept.force);
+        int passHour(Moment passing) {
+            face(passing, kept.force);
             // all that run are asked ahead of the first that moves
             for (int letter = 0; letter < LETTERS; letter++) {
                 if (passing.state[letter] == IS_ON) {
@@ -1677,7 +1677,7 @@ public final class MercuryPost {
                 if (passing.state[letter] != IS_ON) {
                     continue;
                 }
-                if (asKept.hasDoor(passing.spot[letter])) {
+                if (kept.hasDoor(passing.spot[letter])) {
                     passing.state[letter] = IS_READ;
                     passing.readIn[letter] = passing.hour;
                     read++;

@@ -63,7 +63,7 @@ public final class AnyNumbersTest {
     private static long call(MercuryPost p, int kind, int[] a) {
         switch (kind) {
             case 0: return p.cell(a[0], a[1]);
-            case 1: return p.door(a[0], a[1] & 1);
+            case 1: return p.door(a[0], a[2] > 9 ? a[1] & 1 : a[1]);
             case 2: return p.letter(a[0], a[1]);
             case 3: return p.terms(a[0], a[1]);
             case 4: return p.feed(a[0], a[1], a[2], a[3], a[4]);
